@@ -872,7 +872,7 @@ public final class LineEnds {
         }
     }
 
-    /** Reads a TABLE's TEXT into CLASSES; behind a FAULT every step does nothing. */
+    /** Reads a TABLE's TEXT into CLASSES; the first FAULT stays, whatever is read behind it. */
     private static final class Reader {
         private static final int START = 0;
         private static final int WORD = 1;
@@ -1603,7 +1603,7 @@ public final class LineEnds {
         void planFull(Ruler ruler, boolean plainFirst) {
             int signs = ruler.signs();
             int from = 0;
-            while (from < signs) {
+            for (int line = 0; line < signs && from < signs; line++) {
                 ends[from] = fullEnd(ruler, from, plainFirst);
                 from = ends[from] + 1;
             }

@@ -133,6 +133,8 @@ public final class ActsTest {
         state("10 nothing happens", x, "accac", "01200", 3);
         C.due("10 into one that is there", 3, x.replace(2, 0));
         state("10", x, "aaaaa", "01200", 4);
+        C.due("10 all, the first and the last too", 5, x.replace(0, 1));
+        state("10", x, "bbbbb", "01200", 5);
     }
 
     private static void mark() {
@@ -349,6 +351,7 @@ public final class ActsTest {
         C.due("19 not at all", -2, find(x, "ba" + "ba", 0));
         C.due("19 not told", -2, find(x, "z", 0));
         C.due("19 other bytes", -2, find(x, "a1", 0));
+        C.due("19 a byte that is a letter's number", -2, find(x, "a\u0001", 0));
         C.due("19 the tape is empty then", 0, x.count(5));
         C.due("19 a capital", -2, find(x, "A", 0));
         C.due("19 none", -2, find(x, "", 0));
@@ -360,6 +363,7 @@ public final class ActsTest {
         C.due("19 the tape stays", 2, x.count(5));
         C.due("19 and is looked for then", 5, x.find(5));
         C.due("19 no ACT", 0, x.count(4));
+        C.due("19 the last letter", 1, find(Check.made("class a wide 1;class z wide 1;", "azz", 9), "zz", 0));
     }
 
     private static void legal() {

@@ -176,6 +176,11 @@ public final class LinesTest {
         C.due("35 one COSTS 3, two 2", "s|s", Check.spelt(g, BEST));
         g.weigh(1, 3);
         C.due("35 of the same COST the fewest", "s,,s,", Check.spelt(g, BEST));
+        LineEnds t = Check.made("class a wide 2 squeeze 1 rank 1;class b wide 6 hang;", "abaaabb", 9);
+        t.weigh(0, 4);
+        t.weigh(1, 3);
+        C.due("35 two LINES ahead of a,ba,a,|ab|b, which COSTS 6 too", "a,ba|a,abB", Check.spelt(t, BEST));
+        C.due("25 COST", 6, t.lines(BEST, 1));
         LineEnds h = Check.made("class e wide 3 shy end;class a wide 3;", "eea", 7);
         h.weigh(2, 5);
         C.due("35 ends that aren't LEGAL by their COST", "ee!|a", Check.spelt(h, BEST));

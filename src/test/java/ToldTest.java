@@ -106,7 +106,7 @@ public final class ToldTest {
 
     private static void faultsOfTables() {
         for (String text : new String[] {
-            "|x", "|clas a wide 4;", "|clas", "class|", "|;", "|4", "|Class a wide 4;", "|\tclass a wide 4;", "|a", "|classa wide 4;",
+            "|x", "|clas a wide 4;", "|klass a wide 4;", "|clas", "class|", "|;", "|4", "|Class a wide 4;", "|\tclass a wide 4;", "|a", "|classa wide 4;",
             "class |", "class|4", "class   |", "class |ab wide 4;", "class |A wide 4;", "class |wide 4;", "class |;",
             "class a|", "class a |", "class a |wid 4;", "class a |wider 4;", "class a|; wide 4;", "class a|4 wide 4;",
             "class a wide|", "class a wide |", "class a wide |0;", "class a wide |x;", "class a wide|4;", "class a wide |;",
@@ -176,7 +176,10 @@ public final class ToldTest {
         C.due("4 ACTS stay", 3, x.count(4));
         C.due("4 a half told TABLE leaves no trace", -26, Check.table(x, "class b wide 9;keep b z;"));
         C.due("4 the TABLE stays as it was", table, Check.speltTable(x));
+        C.due("4 LINES ahead of a new TABLE", true, x.lines(0, 0) > 0 && x.ways() > 0);
         C.due("4 a new TABLE", 1, Check.table(x, "class c wide 2;"));
+        C.due("4 no LINES", 0, x.lines(0, 0));
+        C.due("4 no WAYS", 0, x.ways());
         C.due("4 it alone", "class c wide 2;", Check.speltTable(x));
         C.due("4 no PAIRS", 0, x.count(1));
         C.due("4 no SIGNS", 0, x.count(2));
@@ -191,7 +194,9 @@ public final class ToldTest {
     private static void paragraphs() {
         LineEnds x = Check.made("class a wide 4;class b wide 3;", "", 9);
         C.due("5 empty", 0, x.count(2));
+        C.due("5 no LINES", 0, x.lines(0, 0));
         C.due("5 blanks", 3, Check.paragraph(x, "  a b  b "));
+        C.due("5 LINES", 2, x.lines(0, 0));
         C.due("5 signs", "abb", Check.signs(x));
         C.due("5 the tape is empty", 0, x.count(5));
         C.due("5 nothing can be undone", -1, x.undo());

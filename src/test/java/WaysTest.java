@@ -230,6 +230,12 @@ public final class WaysTest {
         y.mark(1, 1);
         C.due("46 LEGAL ends", 2, y.count(6));
         C.due("46 from behind a LEGAL end on", 3, y.count(7));
+        y.mark(0, 1);
+        C.due("46 the first SIGN's end counts", 3, y.count(6));
+        y.mark(1, 0);
+        y.mark(0, 0);
+        y.mark(0, 1);
+        C.due("46 from behind the first SIGN on", 4, y.count(7));
         y.delete(0, 5);
         C.due("46 without SIGNS", 0, y.count(7));
     }
