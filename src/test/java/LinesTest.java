@@ -30,6 +30,7 @@ public final class LinesTest {
         river();
         spell();
         spellTable();
+        mostSigns();
         C.end();
     }
 
@@ -438,6 +439,10 @@ public final class LinesTest {
         C.due("34 two gaps a LINE", 4, river("ccc/aa/ccc/ca/"));
         C.due("34 no gap", 0, river("bb/"));
         C.due("34 none in the last LINE", 0, Check.made("class a wide 2 open 9 rank 1;", "aa", 9).river(BEST));
+        LineEnds w = Check.made("class a wide 9;class b wide 7 open 1 rank 1;class p wide 9 hang;", "aaaaaaaabpa", 80);
+        w.mark(9, 1);
+        C.due("35 a gap at the very end", "aaaaaaaab.P/|a", Check.spelt(w, FULL));
+        C.due("34 a gap at the very end", 1, w.river(FULL));
         C.due("34 without SIGNS", 0, new LineEnds().river(0));
         C.due("34 no kind", -1, new LineEnds().river(4));
         C.due("34 no kind", -1, new LineEnds().river(-1));
@@ -466,6 +471,50 @@ public final class LinesTest {
         C.due("35 no LINE, not so many", -1, x.spell(FULL, 3, MAX));
         C.due("35 no kind", -1, x.spell(4, 0, 0));
         C.due("35 no kind", -1, x.spell(-1, 0, -1));
+    }
+
+    /** As many SIGNS, and LINES, as there can be. */
+    private static void mostSigns() {
+        LineEnds x = Check.made("class a wide 4 squeeze 1 rank 1 open 1 rank 1;class z wide 2;keep z z;", "az".repeat(20), 4);
+        for (int i = 0; i < 40; i++) {
+            x.mark(i, 1);
+        }
+        for (int kind = 0; kind < 4; kind++) {
+            C.due("25 LINES", 40, x.lines(kind, 0));
+            C.due("25 LEFT", 19 * 2, x.lines(kind, 6));
+            C.due("25 MARK 1", 40, x.lines(kind, 8));
+            C.due("26 the last LINE", 39, x.line(kind, 39, 0));
+            C.due("26 none behind it", -1, x.line(kind, 40, 0));
+            C.due("27 the last SIGN", 39, x.lineOf(kind, 39));
+            C.due("28 the last SIGN", 0, x.place(kind, 39, 0));
+            C.due("29 the last SIGN", 39, x.at(kind, 39, 1));
+            C.due("31 all LINES", 40, x.same(kind, BEST));
+            C.due("32 the first of several", 1, x.dearest(kind));
+            C.due("33 none", 0, x.units(kind, 1, false));
+            C.due("34 none", 0, x.river(kind));
+            C.due("35 the last LINE", "z/", Check.spelt(x, kind, 39));
+            C.due("45 end with z", 20, x.atEnds(kind, 25, true));
+        }
+        C.due("30 all", 40, x.common(-1));
+        C.due("30 the last one", 39, x.common(39));
+        C.due("30 none behind it", -2, x.common(40));
+        C.due("37 one WAY", 1, x.ways());
+        C.due("38 its LINES", 40, x.fewest());
+        C.due("39 its LINES", 40, x.way(0, -1));
+        C.due("39 its last end", 39, x.way(0, 39));
+        C.due("40 worst", 1, x.worst());
+        C.due("41 without a MARK", 19 * 20, x.costMarked(39, 0));
+        C.due("42 by WIDTH 5", 20 * 10 + 19 * 30, x.costBy(5));
+        C.due("43 by none", -2, x.widthFor(39));
+        C.due("43 by the least", 4, x.widthFor(40));
+        C.due("44 the least", 4, x.bestWidth());
+        C.due("46 LEGAL ends", 40, x.count(6));
+        C.due("46 the most SIGNS", 1, x.count(7));
+        C.due("10 all", 20, x.replace(0, 25));
+        C.due("9 to the other end", true, x.shift(0, 39, 1));
+        C.due("7 all", true, x.delete(0, 40));
+        C.due("16 undo", true, x.undo() > 0);
+        C.due("21 the last SIGN", 25, x.sign(39));
     }
 
     private static void spellTable() {
