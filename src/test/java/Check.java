@@ -2,12 +2,18 @@
 final class Check {
     private int wrong = 0;
     private int held = 0;
+    private String sentence = "";
+
+    /** The words of the document that the answers from here on are held against, the promise's number ahead. */
+    void sentence(String words) {
+        sentence = words + ": ";
+    }
 
     void due(String call, long want, long got) {
         held++;
         if (got != want) {
             wrong++;
-            System.out.println(call + " answered " + got + ", due is " + want);
+            System.out.println(sentence + call + " answered " + got + ", due is " + want);
         }
     }
 
@@ -19,7 +25,7 @@ final class Check {
         held++;
         if (!want.equals(got)) {
             wrong++;
-            System.out.println(call + " answered \"" + got + "\", due is \"" + want + "\"");
+            System.out.println(sentence + call + " answered \"" + got + "\", due is \"" + want + "\"");
         }
     }
 
@@ -70,7 +76,8 @@ final class Check {
 
     static String spelt(LineEnds x, int kind, int line) {
         StringBuilder text = new StringBuilder();
-        for (int i = 0; i < x.spell(kind, line, -1); i++) {
+        int length = x.spell(kind, line, -1);
+        for (int i = 0; i < length; i++) {
             text.append((char) x.spell(kind, line, i));
         }
         return text.toString();
@@ -79,7 +86,8 @@ final class Check {
     /** All lines of a kind, a bar between two. */
     static String spelt(LineEnds x, int kind) {
         StringBuilder text = new StringBuilder();
-        for (int line = 0; line < x.lines(kind, 0); line++) {
+        int lines = x.lines(kind, 0);
+        for (int line = 0; line < lines; line++) {
             text.append(line == 0 ? "" : "|").append(spelt(x, kind, line));
         }
         return text.toString();
@@ -87,7 +95,8 @@ final class Check {
 
     static String speltTable(LineEnds x) {
         StringBuilder text = new StringBuilder();
-        for (int i = 0; i < x.spellTable(-1); i++) {
+        int length = x.spellTable(-1);
+        for (int i = 0; i < length; i++) {
             text.append((char) x.spellTable(i));
         }
         return text.toString();
@@ -95,7 +104,8 @@ final class Check {
 
     static String signs(LineEnds x) {
         StringBuilder text = new StringBuilder();
-        for (int i = 0; i < x.count(2); i++) {
+        int signs = x.count(2);
+        for (int i = 0; i < signs; i++) {
             text.append((char) ('a' + x.sign(i)));
         }
         return text.toString();
@@ -103,7 +113,8 @@ final class Check {
 
     static String marks(LineEnds x) {
         StringBuilder text = new StringBuilder();
-        for (int i = 0; i < x.count(2); i++) {
+        int signs = x.count(2);
+        for (int i = 0; i < signs; i++) {
             text.append(x.marked(i));
         }
         return text.toString();
