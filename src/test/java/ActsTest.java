@@ -251,10 +251,12 @@ public final class ActsTest {
     }
 
     private static void undoOfEach() {
-        LineEnds x = marked();
-        x.width(9);
-        String ends = Check.spelt(x, 0) + Check.spelt(x, 1) + x.ways() + " " + x.worst() + Check.speltTable(x);
+        LineEnds before = marked();
+        before.width(9);
+        String ends = Check.spelt(before, 0) + Check.spelt(before, 1) + before.ways() + " " + before.worst() + Check.speltTable(before);
         for (int act = 0; act < 10; act++) {
+            LineEnds x = marked();
+            x.width(9);
             switch (act) {
                 case 0: x.insert(2, 1); break;
                 case 1: x.delete(1, 2); break;

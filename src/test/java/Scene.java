@@ -64,6 +64,20 @@ final class Scene {
         });
     }
 
+    Scene withWidth(int width) {
+        return then(x -> x.width(width));
+    }
+
+    /** The MARKS of the first SIGNS, a digit each. */
+    Scene withMarks(String marks) {
+        Scene all = this;
+        for (int i = 0; i < marks.length(); i++) {
+            int at = i;
+            all = all.then(x -> x.mark(at, marks.charAt(at) - '0'));
+        }
+        return all;
+    }
+
     LineEnds made() {
         LineEnds x = new LineEnds();
         calls.forEach(call -> call.on(x));
