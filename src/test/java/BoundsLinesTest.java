@@ -295,6 +295,12 @@ public final class BoundsLinesTest {
         C.due("common(0)", 3, one.ask(x -> x.common(0)));
         C.due("the last SIGN alone", 1, Scene.of("class a wide 1;", "aaa").ask(x -> x.common(NONE)));
         C.due("the last SIGN alone", 2, Scene.of("class a wide 1;", "aaa").ask(x -> x.common(0)));
+        Scene few = Scene.of("class a wide 3 squeeze 2 rank 3;class b wide 3;", "aabbaab").withWidth(8);
+        C.due("FULL", "a,,a,,bb|a,ab", few.lines(FULL));
+        C.due("BEST", "a,ab|ba,a|b", few.lines(BEST));
+        C.due("the last SIGN alone of several", 1, few.ask(x -> x.common(NONE)));
+        C.due("the last SIGN alone of several", 6, few.ask(x -> x.common(0)));
+        C.due("not so many of several", -2, few.ask(x -> x.common(1)));
         C.sentence("30 -2: there are not so many");
         FOUR.stays(C, "common(2)", -2, x -> x.common(2));
         FOUR.stays(C, "common(most)", -2, x -> x.common(MAX));

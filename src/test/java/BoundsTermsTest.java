@@ -17,6 +17,7 @@ public final class BoundsTermsTest {
         hungNot();
         takenAway();
         endGives();
+        endGivesNothing();
         putIn();
         lastLine();
         tooLong();
@@ -198,6 +199,16 @@ public final class BoundsTermsTest {
         }
     }
 
+    /** One that ends a LINE and gives less than nothing takes nothing from what the others give. */
+    private static void endGivesNothing() {
+        C.sentence("0 at least");
+        Scene x = Scene.of("class a wide 8 squeeze 2 rank 1;class t wide 7 trim 3;class u wide 7 trim 5 squeeze 1 rank 1;", "at");
+        C.due("without SQUEEZE", 2, x.withWidth(10).ask(y -> y.cost(0, 1)));
+        C.due("without SQUEEZE, one more", -2, x.withWidth(9).ask(y -> y.cost(0, 1)));
+        C.due("TRIM above SQUEEZE", 2, x.then(y -> y.change(1, 20)).withWidth(8).ask(y -> y.cost(0, 1)));
+        C.due("TRIM above SQUEEZE, one more", -2, x.then(y -> y.change(1, 20)).withWidth(7).ask(y -> y.cost(0, 1)));
+    }
+
     private static void putIn() {
         C.sentence("It has less: so many units are put into gaps behind its SIGNS, but for the last one, likewise by OPEN; what can't be put in is LEFT");
         Scene x = Scene.of("class a wide 2 open 3 rank 2;class b wide 2 open 1 rank 1;class c wide 2 open 2 rank 3;class d wide 2;", "dacabacbd").withMarks("00000001");
@@ -217,6 +228,10 @@ public final class BoundsTermsTest {
         Scene one = Scene.of("class a wide 2 open 9 rank 1;", "aa").withMarks("1").withWidth(5);
         allLines(one, "a/|a");
         facts(one, 0, 0, 0, 30, 2, -3, 0, 0, 0, 3, 1, 0);
+        Scene gap = Scene.of("class a wide 2 open 9 rank 1;", "aaaa").withMarks("001").withWidth(9);
+        allLines(gap, "a..a.a/|a");
+        allLines(gap.then(Scene::askAll, y -> y.mark(0, 1)), "a/|a.....a/|a");
+        allLines(gap.then(Scene::askAll, y -> y.mark(1, 1)), "a.....a/|a/|a");
         C.sentence("(A LINE that ends at a MARK 1 is filled as others.)");
         Scene two = Scene.of("class a wide 2 open 9 rank 1;", "aaa").withMarks("01").withWidth(5);
         allLines(two, "a.a/|a");
@@ -331,6 +346,9 @@ public final class BoundsTermsTest {
         lines(fewest, BEST, "s,,s,");
         lines(fewest.then(y -> y.weigh(1, 2)), BEST, "s|s");
         lines(Scene.of("class a wide 2;", "aaaaaa").withWidth(4), BEST, "aa|aa|aa");
+        lines(fewestNotLater(), BEST, "bb|ba,,A");
+        C.due("COST, as bbb,,|a|a has", 4, fewestNotLater().ask(y -> y.lines(BEST, 1)));
+        lines(Scene.of("class a wide 3 squeeze 2 rank 1;", "aaaa").withWidth(5), BEST, "a,a|a,a");
         C.sentence("of several the first end that differs is the later one");
         lines(Scene.of("class a wide 2;class b wide 4;", "aabb").withWidth(7), BEST, "aa|b|b");
         Scene later = Scene.of("class a wide 1 open 9 rank 1;", "aaaaaaa").withWidth(4).withMarks("00001");
@@ -339,6 +357,11 @@ public final class BoundsTermsTest {
         C.sentence("(LINES TOO LONG of more than one SIGN are none; of one SIGN COST as in FULL LINES.)");
         lines(Scene.of("class w wide 9;", "www").withWidth(4).withMarks("22").then(y -> y.weigh(2, 1)), BEST, "w!|w!|w");
         C.due("COST", 5, Scene.of("class w wide 9;", "www").withWidth(4).withMarks("22").then(y -> y.weigh(2, 1)).ask(y -> y.lines(BEST, 1)));
+    }
+
+    /** Two LINES and three COST 4; the three have the later first end. */
+    private static Scene fewestNotLater() {
+        return Scene.of("class a wide 4 hang squeeze 3 rank 1 open 3 rank 1;class b wide 2 squeeze 1 rank 2 open 3 rank 3;", "bbbaa").withWidth(4);
     }
 
     private static void plain() {
@@ -365,7 +388,17 @@ public final class BoundsTermsTest {
         lines(x, EVEN, "ba|bb|a|a");
         C.due("the greatest of BEST", 50, x.ask(y -> y.line(BEST, 0, 2)));
         C.due("the greatest of EVEN", 30, x.ask(y -> y.line(EVEN, y.dearest(EVEN), 2)));
+        lines(Scene.of("class a wide 4;class w wide 9;", "aaw").withWidth(8), EVEN, "aa|w");
+        lines(Scene.of("class a wide 4;class e wide 9 shy end;", "aaea").withWidth(8), EVEN, "aa|e!|a");
         C.sentence("of several as for BEST LINES");
+        Scene cheaper = Scene.of("class a wide 5 squeeze 3 rank 2;class b wide 5 hang;", "abab").withWidth(7);
+        lines(cheaper, BEST, "aB|aB");
+        lines(cheaper, EVEN, "a|ba,,,|b");
+        C.due("COST, two LINES of the same peak COST 28", 26, cheaper.ask(y -> y.lines(EVEN, 1)));
+        lines(fewestNotLater(), EVEN, "bb|ba,,A");
+        Scene laterEnd = Scene.of("class a wide 4 hang;class b wide 2;", "baaa").withWidth(5);
+        lines(laterEnd, BEST, "bA|aA");
+        lines(laterEnd, EVEN, "b|aA|a");
         Scene later = Scene.of("class a wide 1 open 9 rank 1;", "aaaaaaa").withWidth(4).withMarks("00001");
         lines(later, EVEN, "a.aa|a..a/|aa");
         lines(Scene.of("class a wide 2;", "aaaaaa").withWidth(4), EVEN, "aa|aa|aa");

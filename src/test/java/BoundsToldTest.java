@@ -216,6 +216,7 @@ public final class BoundsToldTest {
         same.stays(C, "undo", NONE, LineEnds::undo);
         C.due("an ACT then is the only one", 0, same.then(x -> x.width(40)).ask(LineEnds::undo));
         C.due("behind 12 ACTS", NONE, twelveActs().then(LineEnds::table).ask(LineEnds::undo));
+        Scene.busy().then(Scene::askAll, x -> Check.table(x, "class a wide 4;class q wide 2 shy begin;keep q a;")).looksAs(C, "asked ahead", same);
         C.sentence("4 the TABLE: CLASSES, SHY, PAIRS of the one before are none any more");
         C.due("TABLE", "class a wide 4;class q wide 2 shy begin;keep q a;", same.table());
         C.due("CLASSES", 2, same.ask(x -> x.count(0)));
@@ -391,6 +392,15 @@ public final class BoundsToldTest {
             "wide 1 open 0 |ran 1;", "wide 1 open |rank 1;", "wide 1 shy begin |end;", "wide 1|,;", "wide 1 |,;", "wide 1 |9;");
         faults("class a wide 1;", "|keeps a a;", "|kee a a;", "keep |aa;", "keep |aa a;", "keep a |aa;", "keep |A a;", "keep a |A;", "keep |1 a;", "keep a |1;",
             "keep a a |a;", "keep a a |1;", "keep |;", "keep a |;", "keep a a|,", "|a", "|1", "|wide 1;");
+        for (String word : new String[] {"class", "wide", "shy", "begin", "end", "hang", "trim", "squeeze", "rank", "open", "keep"}) {
+            String whole = "class a wide 4 shy begin shy end hang trim 3 squeeze 3 rank 1 open 1 rank 1;keep a a;";
+            int at = (" " + whole.replace(';', ' ')).indexOf(" " + word + " ");
+            for (int i = 0; i < word.length(); i++) {
+                for (int other : new int[] {word.charAt(i) - 1, word.charAt(i) + 1, word.charAt(i) - 32}) {
+                    table(whole.substring(0, at + i) + (char) other + whole.substring(at + i + 1), -4 - at);
+                }
+            }
+        }
         C.sentence("WORDS: small letters as far as they go on; L one of one letter; N one digit");
         faults("", "class |ab wide 1;", "class a wide 1|1;", "class a wide |01;", "|classa wide 1;", "class |awide 1;");
     }
@@ -471,6 +481,7 @@ public final class BoundsToldTest {
         C.sentence("5 the PARAGRAPH alone is another one");
         Scene other = Scene.busy().then(x -> Check.paragraph(x, "z"));
         C.due("TABLE", Scene.busy().table(), other.table());
+        Scene.busy().then(Scene::askAll, x -> Check.paragraph(x, "z")).looksAs(C, "asked ahead", other);
         int[] wants = {4, 3, 1, 11, 0, 0, 1, 1, 3, 7, 500, 0, 0};
         for (int i = 0; i < wants.length; i++) {
             int what = i;

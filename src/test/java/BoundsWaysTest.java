@@ -59,6 +59,14 @@ public final class BoundsWaysTest {
             long all = 1L << n - 1;
             C.due("2 to the " + (n - 1) + "th", Math.min(all, BILLION), ofA(n, 1, 80).ask(LineEnds::ways));
         }
+        Scene just = Scene.of("class a wide 3;class b wide 1;", "a".repeat(24) + "b".repeat(10)).withMarks("00000001".repeat(3)).withWidth(18);
+        just.stays(C, "125 * 125 * 125 * 512, just so many", BILLION, LineEnds::ways);
+        C.due("the LINES of the last of them, 6 and 2 SIGNS thrice, 10", 7, just.ask(x -> x.way(BILLION - 1, NONE)));
+        C.due("one more", -2, just.ask(x -> x.way(BILLION, NONE)));
+        C.due("125 * 125 * 125 * 256", 500_000_000, just.then(x -> x.delete(33, 1) ? 1 : 0).ask(LineEnds::ways));
+        C.due("125 * 125 * 125 * 511", 998_046_875, Scene.of("class a wide 3;class b wide 2;", "a".repeat(24) + "b".repeat(10)).withMarks("00000001".repeat(3))
+            .withWidth(18).ask(LineEnds::ways));
+        C.due("125 * 125 * 125 * 1024", BILLION, just.then(x -> x.insert(33, 1) ? 1 : 0).ask(LineEnds::ways));
         C.due("2 to the 32nd, an int's 0", BILLION, ofA(33, 1, 80).ask(LineEnds::ways));
         C.due("2 to the 31st, an int's least", BILLION, ofA(32, 1, 80).ask(LineEnds::ways));
     }

@@ -110,14 +110,25 @@ final class Scene {
         then(made).looksAs(check, call, this);
     }
 
-    /** A call's answer, that it is an ACT, and that undo takes back all of it. */
+    /** A call's answer, that it is an ACT, that undo takes back all of it, and that what was asked ahead is no matter. */
     void acts(Check check, String call, int want, Call made) {
         check.due(call, want, ask(made));
         int acts = ask(x -> x.count(4));
         check.due(call + ", ACTS", Math.min(acts + 1, ACTS), then(made).ask(x -> x.count(4)));
+        then(Scene::askAll, made).looksAs(check, call + ", asked ahead", then(made));
         if (acts < ACTS) {
             then(made, LineEnds::undo).looksAs(check, call + ", undone", this);
+            then(made, Scene::askAll, LineEnds::undo).looksAs(check, call + ", asked and undone", this);
         }
+    }
+
+    /** Calls that find LINES and WAYS: what they found is no matter once something has changed. */
+    static int askAll(LineEnds x) {
+        for (int kind = 0; kind < KINDS; kind++) {
+            x.lines(kind, 1);
+            x.river(kind);
+        }
+        return x.ways() + x.natural(0, 0) + x.worst() + x.bestWidth() + x.spellTable(NONE);
     }
 
     void looksAs(Check check, String call, Scene other) {
