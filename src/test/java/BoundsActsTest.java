@@ -25,6 +25,8 @@ public final class BoundsActsTest {
         width();
         pair();
         pairsMost();
+        pairsKeep();
+        tenClassesActs();
         shy();
         weigh();
         undo();
@@ -278,6 +280,48 @@ public final class BoundsActsTest {
         Scene toldSo = Scene.of(tenClasses() + "keep a a;keep a b;keep a c;keep a d;keep a e;keep a f;keep a g;keep a h;keep a i;keep a j;keep b a;keep b b;", "");
         toldSo.stays(C, "a 13th behind 12 of the TABLE", NONE, x -> x.pair(1, 2));
         toldSo.acts(C, "one of 12 of the TABLE goes", 0, x -> x.pair(1, 1));
+    }
+
+    /** Each of 12 PAIRS keeps a LINE from ending, and no other two SIGNS do. */
+    private static void pairsKeep() {
+        C.sentence("PAIRS (12 at most) of CLASSES: no line ends between the first and the second, side by side");
+        Scene none = Scene.of(tenClasses(), "aabacadaeafagahaiajbabbbcbd");
+        Scene twelve = none;
+        for (int i = 0; i < 12; i++) {
+            int first = i / 10;
+            int second = i % 10;
+            twelve = twelve.then(x -> x.pair(first, second));
+        }
+        String signs = none.signs();
+        for (int n = 0; n < signs.length() - 1; n++) {
+            int i = n;
+            int both = (signs.charAt(i) - 'a') * 10 + signs.charAt(i + 1) - 'a';
+            C.due("legal(" + i + ") with 12 PAIRS", both < 12 ? 0 : 1, twelve.ask(x -> x.legal(i)));
+            C.due("legal(" + i + ") with no PAIRS", 1, none.ask(x -> x.legal(i)));
+        }
+    }
+
+    private static void tenClassesActs() {
+        C.sentence("CLASSES: small letters, 10 at most: the 10th is one, the letter behind it is none");
+        TEN.acts(C, "insert(0, j)", 1, x -> told(x.insert(0, 9)));
+        TEN.stays(C, "insert(0, k)", 0, x -> told(x.insert(0, 10)));
+        TEN.acts(C, "change(0, j)", 0, x -> x.change(0, 9));
+        TEN.stays(C, "change(0, k)", NONE, x -> x.change(0, 10));
+        TEN.acts(C, "replace(a, j)", 1, x -> x.replace(0, 9));
+        TEN.acts(C, "replace(j, a)", 1, x -> x.replace(9, 0));
+        TEN.stays(C, "replace(a, k)", NONE, x -> x.replace(0, 10));
+        TEN.stays(C, "replace(k, a)", NONE, x -> x.replace(10, 0));
+        TEN.acts(C, "pair(j, j)", 1, x -> x.pair(9, 9));
+        TEN.stays(C, "pair(j, k)", NONE, x -> x.pair(9, 10));
+        TEN.acts(C, "shy(j, true)", 1, x -> x.shy(9, true));
+        TEN.stays(C, "shy(k, true)", NONE, x -> x.shy(10, true));
+        TEN.stays(C, "of(j, 9)", 1, x -> x.of(9, 9));
+        TEN.stays(C, "of(k, 9)", NONE, x -> x.of(10, 9));
+        TEN.stays(C, "isPair(j, j)", 0, x -> x.isPair(9, 9));
+        TEN.stays(C, "isPair(j, k)", NONE, x -> x.isPair(9, 10));
+        TEN.stays(C, "atEnds(0, j, true)", 1, x -> x.atEnds(0, 9, true));
+        TEN.stays(C, "atEnds(0, k, true)", NONE, x -> x.atEnds(0, 10, true));
+        NEW.stays(C, "no CLASSES: shift(0, 1, 0)", 0, x -> told(x.shift(0, 1, 0)));
     }
 
     private static void shy() {

@@ -375,6 +375,8 @@ public final class BoundsTermsTest {
         lines(Scene.of(table, "sspss").withWidth(7), PLAIN, "s|sP|s|s");
         C.sentence("PLAIN LINES: as FULL ones");
         lines(Scene.of(table, "esss").withWidth(7), PLAIN, "e,,s,,s,|s");
+        lines(Scene.of(table, "eses").withWidth(7), PLAIN, "e,s|e,s");
+        lines(Scene.of(table, "eses").withWidth(7), FULL, "e,s|e,s");
         lines(Scene.of(table, "eeee").withWidth(7), PLAIN, "e,,e,,e,!|e");
         lines(Scene.of(table, "ee").withWidth(4), PLAIN, "e,,e,,");
         lines(Scene.of("class w wide 9 shy end;", "ww").withWidth(4), PLAIN, "w!|w");
@@ -390,6 +392,7 @@ public final class BoundsTermsTest {
         C.due("the greatest of EVEN", 30, x.ask(y -> y.line(EVEN, y.dearest(EVEN), 2)));
         lines(Scene.of("class a wide 4;class w wide 9;", "aaw").withWidth(8), EVEN, "aa|w");
         lines(Scene.of("class a wide 4;class e wide 9 shy end;", "aaea").withWidth(8), EVEN, "aa|e!|a");
+        lines(Scene.of("class a wide 4 shy end;class b wide 4;class w wide 9;", "bbaw").withMarks("01").withWidth(8), EVEN, "bb/|a!|w");
         C.sentence("of several as for BEST LINES");
         Scene cheaper = Scene.of("class a wide 5 squeeze 3 rank 2;class b wide 5 hang;", "abab").withWidth(7);
         lines(cheaper, BEST, "aB|aB");
